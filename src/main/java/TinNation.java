@@ -455,8 +455,10 @@ public final class TinNation {
     }
 
     private boolean isBelowLonger(int tin) {
-        for (int other = 0; other < now.tins; other++) {
-            if (now.isClosedAbove(other, tin) && plan.tins.at(other, Plan.KEEPS) > plan.tins.at(tin, Plan.KEEPS)) {
+        int[] keepsOf = plan.tins.column(Plan.KEEPS);
+        for (int other = 0; other < now.tins && now.has(tin); other++) {
+            boolean isAbove = now.stack[other] == now.stack[tin] && now.height[other] > now.height[tin];
+            if (isAbove && now.isClosed(other) && keepsOf[other] > keepsOf[tin]) {
                 return true;
             }
         }
@@ -464,7 +466,7 @@ public final class TinNation {
     }
 
     private static boolean isBit(int bits, int number) {
-        return (bits >> number & 1) != 0;
+        return ((bits >> number) & 1) != 0;
     }
 
     public int rests(int tin) {
@@ -764,17 +766,15 @@ public final class TinNation {
         }
     }
 
-    /** Rows of numbers, all in one array, as many as the document allows. */
+    /** Rows of numbers, as many as the document allows, held by columns. */
     private static final class Rows {
         private final int most;
-        private final int width;
-        private final int[] cells;
+        private final int[][] columns;
         int size;
 
         Rows(int most, int width) {
             this.most = most;
-            this.width = width;
-            this.cells = new int[most * width];
+            this.columns = new int[width][most];
         }
 
         boolean isFull() {
@@ -785,8 +785,13 @@ public final class TinNation {
             return row >= 0 && row < size;
         }
 
+        /** A column whole, for loops over the rows: the DAYS run through them too often for at(). */
+        int[] column(int column) {
+            return columns[column >= 0 && column < columns.length ? column : 0];
+        }
+
         int at(int row, int column) {
-            return has(row) && column >= 0 && column < width ? cells[row * width + column] : 0;
+            return has(row) ? column(column)[row] : 0;
         }
 
         /** Adds a row, which set() fills; none, if there is no room. */
@@ -796,17 +801,18 @@ public final class TinNation {
             }
         }
 
-        /** Sets a cell of the last row. */
+        /** Sets a number of the last row. */
         void set(int column, int value) {
-            if (size > 0 && column >= 0 && column < width) {
-                cells[(size - 1) * width + column] = value;
+            if (size > 0) {
+                column(column)[size - 1] = value;
             }
         }
 
-        /** The row whose first number it is. */
+        /** The row whose first number it is; NONE without. */
         int rowOf(int first) {
+            int[] firsts = column(0);
             for (int row = 0; row < size; row++) {
-                if (cells[row * width] == first) {
+                if (firsts[row] == first) {
                     return row;
                 }
             }
@@ -815,14 +821,18 @@ public final class TinNation {
 
         void dropFirst() {
             if (size > 0) {
-                System.arraycopy(cells, width, cells, 0, (size - 1) * width);
                 size--;
+                for (int[] column : columns) {
+                    System.arraycopy(column, 1, column, 0, size);
+                }
             }
         }
 
         void take(Rows other) {
-            System.arraycopy(other.cells, 0, cells, 0, Math.min(cells.length, other.cells.length));
             size = Math.min(most, other.size);
+            for (int i = 0; i < columns.length; i++) {
+                System.arraycopy(other.column(i), 0, columns[i], 0, size);
+            }
         }
     }
 
@@ -849,7 +859,8 @@ public final class TinNation {
         int keys = MOST_KEYS_TOLD;
         int rust;
         int seed;
-        /** Of all WANTS; NONE without. */
+        /** The last DAYS of open and of WANTS; NONE without. */
+        int lastOpenDay = NONE;
         int lastWantDay = NONE;
 
         void clear() {
@@ -861,6 +872,7 @@ public final class TinNation {
             keys = MOST_KEYS_TOLD;
             rust = 0;
             seed = 0;
+            lastOpenDay = NONE;
             lastWantDay = NONE;
         }
 
@@ -873,6 +885,7 @@ public final class TinNation {
             keys = other.keys;
             rust = other.rust;
             seed = other.seed;
+            lastOpenDay = other.lastOpenDay;
             lastWantDay = other.lastWantDay;
         }
     }
@@ -1006,7 +1019,6 @@ public final class TinNation {
         static final int SEED = 7;
         static final int LAW = 8;
         static final int FRESH = 9;
-        static final int BLOW = 11;
         static final int DENTS = 12;
         static final int DAY = 18;
         static final int NOT = 19;
@@ -1031,6 +1043,7 @@ public final class TinNation {
         private static final String WORDS =
                 "kind  tin   open  want  keys  rust  seed  law   fresh glory blow  dents keeps weightsound worth left  day   not   and   or    ";
         private static final int WORD_COUNT = 21;
+        private static final String SIGNS = "()*+-/;<=>";
 
         /** Above every number that may stand in a TEXT, and small enough to be counted on from. */
         private static final int TOO_MUCH = 1_000_000;
@@ -1049,7 +1062,7 @@ public final class TinNation {
                 int letters = 0;
                 for (int i = 0; i < MOST_LETTERS; i++) {
                     char letter = WORDS.charAt(word * MOST_LETTERS + i);
-                    letters = letters << 5 | (letter == ' ' ? 0 : letter - 'a' + 1);
+                    letters = (letters << 5) | (letter == ' ' ? 0 : letter - 'a' + 1);
                 }
                 words[word] = letters;
             }
@@ -1071,49 +1084,38 @@ public final class TinNation {
                 at++;
             }
             place = at;
+            int sign = at < length ? tape[at] : 0;
             if (at >= length) {
                 token = END;
-            } else if (isLetter(tape[at])) {
+            } else if (sign >= 'a' && sign <= 'z') {
                 takeWord();
-            } else if (isDigit(tape[at])) {
+            } else if (sign >= '0' && sign <= '9') {
                 takeNumber();
             } else {
                 takeSign();
             }
         }
 
-        private static boolean isLetter(int sign) {
-            return sign >= 'a' && sign <= 'z';
-        }
-
-        private static boolean isDigit(int sign) {
-            return sign >= '0' && sign <= '9';
-        }
-
         private void takeWord() {
             value = 0;
             int letters = 0;
-            for (; at < length && isLetter(tape[at]); at++) {
+            for (; at < length && tape[at] >= 'a' && tape[at] <= 'z'; at++) {
                 if (letters < MOST_LETTERS) {
-                    value |= tape[at] - 'a' + 1 << 25 - 5 * letters;
+                    value |= (tape[at] - 'a' + 1) << (25 - 5 * letters);
                 }
                 letters++;
             }
-            token = letters > MOST_LETTERS ? BAD : wordOf(value);
-        }
-
-        private int wordOf(int letters) {
-            for (int word = 0; word < WORD_COUNT; word++) {
-                if (words[word] == letters) {
-                    return word + 1;
+            token = letters > MOST_LETTERS ? BAD : NAME;
+            for (int word = 0; word < WORD_COUNT && token == NAME; word++) {
+                if (words[word] == value) {
+                    token = word + 1;
                 }
             }
-            return NAME;
         }
 
         private void takeNumber() {
             value = 0;
-            for (; at < length && isDigit(tape[at]); at++) {
+            for (; at < length && tape[at] >= '0' && tape[at] <= '9'; at++) {
                 value = Math.min(TOO_MUCH, value * 10 + tape[at] - '0');
             }
             token = NUMBER;
@@ -1122,7 +1124,7 @@ public final class TinNation {
         private void takeSign() {
             int sign = at < length ? tape[at] : 0;
             int next = at + 1 < length ? tape[at + 1] : 0;
-            token = signOf(sign);
+            token = sign > 0 && SIGNS.indexOf((char) sign) >= 0 ? sign : BAD;
             if (sign == LESS && next == SAME) {
                 token = AT_MOST;
             } else if (sign == MORE && next == SAME) {
@@ -1131,24 +1133,6 @@ public final class TinNation {
                 token = OTHER;
             }
             at += token >= AT_MOST ? 2 : 1;
-        }
-
-        private static int signOf(int sign) {
-            switch (sign) {
-                case BRACKET:
-                case BRACKET_END:
-                case TIMES:
-                case PLUS:
-                case MINUS:
-                case OVER:
-                case STOP:
-                case LESS:
-                case SAME:
-                case MORE:
-                    return sign;
-                default:
-                    return BAD;
-            }
         }
     }
 
@@ -1186,7 +1170,10 @@ public final class TinNation {
             }
         }
 
-        /** Behind a FAULT the token stays BAD and fits nowhere, so that reading ends by itself. */
+        /**
+         * Behind a FAULT the token stays BAD, whoever goes on, and fits nowhere: reading ends by itself,
+         * and what comes into the plan till then is never used.
+         */
         private void fail(int number) {
             if (fault == 0) {
                 fault = number;
@@ -1196,11 +1183,10 @@ public final class TinNation {
         }
 
         private void expect(int token) {
-            if (scanner.token == token) {
-                scanner.advance();
-            } else {
+            if (scanner.token != token) {
                 fail(WRONG_TOKEN);
             }
+            scanner.advance();
         }
 
         private void line() {
@@ -1267,6 +1253,7 @@ public final class TinNation {
             plan.opens.add();
             plan.opens.set(Plan.OPEN_TIN, tin);
             plan.opens.set(Plan.OPEN_DAY, day);
+            plan.lastOpenDay = Math.max(plan.lastOpenDay, day);
         }
 
         private void wantLine() {
@@ -1301,28 +1288,34 @@ public final class TinNation {
 
         private int newName(Rows rows) {
             int letters = scanner.value;
-            if (scanner.token == Scanner.NAME && rows.rowOf(letters) != NONE) {
+            if (scanner.token != Scanner.NAME) {
+                fail(WRONG_TOKEN);
+            } else if (rows.rowOf(letters) != NONE) {
                 fail(TOLD_ALREADY);
             }
-            expect(Scanner.NAME);
+            scanner.advance();
             return letters;
         }
 
         private int toldName(Rows rows) {
             int row = rows.rowOf(scanner.value);
-            if (scanner.token == Scanner.NAME && row == NONE) {
+            if (scanner.token != Scanner.NAME) {
+                fail(WRONG_TOKEN);
+            } else if (row == NONE) {
                 fail(NOT_TOLD);
             }
-            expect(Scanner.NAME);
+            scanner.advance();
             return Math.max(row, 0);
         }
 
         private int number(int least, int most) {
             int value = scanner.value;
-            if (scanner.token == Scanner.NUMBER && (value < least || value > most)) {
+            if (scanner.token != Scanner.NUMBER) {
+                fail(WRONG_TOKEN);
+            } else if (value < least || value > most) {
                 fail(TOO_MUCH);
             }
-            expect(Scanner.NUMBER);
+            scanner.advance();
             return value;
         }
 
@@ -1527,17 +1520,16 @@ public final class TinNation {
         }
 
         int closedAbove(int tin) {
+            if (!has(tin)) {
+                return 0;
+            }
             int many = 0;
             for (int other = 0; other < tins; other++) {
-                if (isClosedAbove(other, tin)) {
+                if (status[other] == CLOSED && stack[other] == stack[tin] && height[other] > height[tin]) {
                     many++;
                 }
             }
             return many;
-        }
-
-        boolean isClosedAbove(int other, int tin) {
-            return isClosed(other) && has(tin) && stack[other] == stack[tin] && height[other] > height[tin];
         }
 
         int heightOver(int where) {
@@ -1561,7 +1553,7 @@ public final class TinNation {
         }
 
         int drawn() {
-            number = number * 1103515245L + 12345L & 0x7fffffffL;
+            number = (number * 1103515245L + 12345L) & 0x7fffffffL;
             return (int) (number / 65536);
         }
     }
@@ -1609,9 +1601,14 @@ public final class TinNation {
             return s.day <= plan.lastWantDay;
         }
 
+        /** One DAY, (1) to (5). */
         void pass(State s) {
-            openTold(s);
-            serve(s);
+            if (s.day <= plan.lastOpenDay) {
+                openTold(s);
+            }
+            if (s.day <= plan.lastWantDay) {
+                serve(s);
+            }
             if (way != NOTHING_GOES_OFF) {
                 goOff(s);
             }
@@ -1623,10 +1620,11 @@ public final class TinNation {
         }
 
         private void openTold(State s) {
+            int[] dayOf = plan.opens.column(Plan.OPEN_DAY);
             for (int i = 0; i < plan.opens.size; i++) {
                 int tin = plan.opens.at(i, Plan.OPEN_TIN);
                 boolean isSpared = way == NEVER_OPENED && tin == spared;
-                if (plan.opens.at(i, Plan.OPEN_DAY) == s.day && !isSpared) {
+                if (dayOf[i] == s.day && !isSpared) {
                     if (s.keys > 0 && (way == ALL_ON_TOP ? s.isClosed(tin) : s.isOnTop(tin))) {
                         unseal(s, tin);
                     } else {
@@ -1653,9 +1651,10 @@ public final class TinNation {
         }
 
         private void serve(State s) {
+            int[] dayOf = plan.wants.column(Plan.WANT_DAY);
             int busy = 0;
-            for (int want = 0; want < plan.wants.size && want < MOST_WANTS; want++) {
-                if (plan.wants.at(want, Plan.WANT_DAY) == s.day) {
+            for (int want = 0; want < plan.wants.size; want++) {
+                if (dayOf[want] == s.day) {
                     int tin = server(s, plan.wants.at(want, Plan.WANT_KIND), busy);
                     if (tin == NONE) {
                         s.wants[want] = MISSED;
@@ -1674,8 +1673,9 @@ public final class TinNation {
 
         /** The first OPEN one of a KIND that isn't among the busy ones (bits); NONE without. */
         private int server(State s, int kind, int busy) {
+            int[] kindOf = plan.tins.column(Plan.KIND);
             for (int tin = 0; tin < s.tins; tin++) {
-                if (s.status[tin] == OPENED && plan.tins.at(tin, Plan.KIND) == kind && !isBit(busy, tin)) {
+                if (s.status[tin] == OPENED && kindOf[tin] == kind && !isBit(busy, tin)) {
                     return tin;
                 }
             }
@@ -1696,6 +1696,10 @@ public final class TinNation {
 
         private void rust(State s) {
             boolean isLaw = plan.laws.has(LAW_BLOW);
+            // Without a law all have the same odds, and mostly none at all.
+            if (!isLaw && plan.rust < (isDrawn ? 1 : RUSTS_FROM)) {
+                return;
+            }
             for (int tin = 0; tin < s.tins; tin++) {
                 if (s.status[tin] == CLOSED) {
                     long worked = isLaw ? plan.laws.work(LAW_BLOW, namesOf(s, tin, NONE)) : ERROR;
@@ -1718,9 +1722,9 @@ public final class TinNation {
         }
 
         private void blow(State s) {
+            int[] keepsOf = plan.tins.column(Plan.KEEPS);
             for (int tin = 0; tin < s.tins; tin++) {
-                boolean isDue = plan.tins.at(tin, Plan.KEEPS) <= s.day || s.dents[tin] >= MOST_DENTS;
-                if (s.status[tin] == CLOSED && isDue) {
+                if (s.status[tin] == CLOSED && (keepsOf[tin] <= s.day || s.dents[tin] >= MOST_DENTS)) {
                     s.status[tin] = BLOWN;
                 }
             }
