@@ -69,6 +69,30 @@ public final class TextTest {
         Check.due("-2 leaves the tape", -2, x.text(21));
         Check.due("-2 leaves the fault", 1, x.fault(0));
         Check.due("so it has more then", 40, x.feed(0, 0, 0, 0, 0));
+        cut("law fresh 1<=2;", 12, 1, 12);
+        cut("law fresh 1<>2;", 12, 1, 12);
+        cut("keys 12345678;", 6, 1, 6);
+        cut("kind kindly 1 1;", 8, 1, 8);
+        cut("kind kindly 1 1;", 9, 1, 5);
+    }
+
+    /** A text of which the first bytes alone are read. */
+    private static void cut(String text, int n, int fault, int place) {
+        TinNation x = new TinNation();
+        Check.tell(x, "!");
+        StringBuilder bytes = new StringBuilder(text + "       ");
+        x.feed(word(bytes, 0), word(bytes, 4), word(bytes, 8), word(bytes, 12), word(bytes, 16));
+        Check.due("the first " + n + " of <" + text + ">", -1, x.text(n));
+        Check.due("fault of it", fault, x.fault(0));
+        Check.due("place of it", place, x.fault(1));
+    }
+
+    private static int word(CharSequence bytes, int at) {
+        int word = 0;
+        for (int i = at; i < at + 4; i++) {
+            word = word << 8 | bytes.charAt(i);
+        }
+        return word;
     }
 
     private static void good(String text, int lines, int knots) {
