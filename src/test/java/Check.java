@@ -2,8 +2,18 @@
 final class Check {
     private static int passed;
     private static int failed;
+    /** What is told ahead of each answer that is not the one due. */
+    private static String about = "";
 
     private Check() {
+    }
+
+    static void about(String what) {
+        about = what;
+    }
+
+    static int made() {
+        return passed + failed;
     }
 
     static void due(String what, long want, long got) {
@@ -11,7 +21,7 @@ final class Check {
             passed++;
         } else {
             failed++;
-            System.out.println(what + " answered " + got + ", due is " + want);
+            System.out.println(about + what + " answered " + got + ", due is " + want);
         }
     }
 
@@ -19,21 +29,59 @@ final class Check {
         due(what, want ? 1 : 0, got ? 1 : 0);
     }
 
+    /** A text without a FAULT. */
+    static void good(String text, int lines, int knots) {
+        TinNation x = new TinNation();
+        due("lines of <" + text + ">", lines, tell(x, text));
+        due("fault of <" + text + ">", 0, x.fault(0));
+        due("place of <" + text + ">", -1, x.fault(1));
+        due("knots of <" + text + ">", knots, x.count(3));
+    }
+
+    /** A text with a FAULT at a place. */
+    static void bad(String text, int fault, int place) {
+        TinNation x = new TinNation();
+        due("text of <" + text + ">", -1, tell(x, text));
+        due("fault of <" + text + ">", fault, x.fault(0));
+        due("place of <" + text + ">", place, x.fault(1));
+    }
+
+    /** What tin() throws: 1 IndexOutOfBoundsException, 2 NoSuchElementException, 0 nothing. */
+    static int thrown(TinNation x, int tin, int what) {
+        try {
+            x.tin(tin, what);
+            return 0;
+        } catch (IndexOutOfBoundsException e) {
+            return 1;
+        } catch (java.util.NoSuchElementException e) {
+            return 2;
+        }
+    }
+
     /** Feeds a text, with blanks behind it up to twenty bytes, and has it read: what text() answers. */
     static int tell(TinNation x, String text) {
-        StringBuilder bytes = new StringBuilder(text);
-        while (bytes.length() % 20 != 0) {
-            bytes.append(' ');
-        }
-        for (int i = 0; i < bytes.length(); i += 20) {
-            x.feed(word(bytes, i), word(bytes, i + 4), word(bytes, i + 8), word(bytes, i + 12), word(bytes, i + 16));
-        }
+        feed(x, text);
         return x.text(text.length());
     }
 
-    private static int word(CharSequence bytes, int at) {
-        return (bytes.charAt(at) & 255) << 24 | (bytes.charAt(at + 1) & 255) << 16
-                | (bytes.charAt(at + 2) & 255) << 8 | bytes.charAt(at + 3) & 255;
+    /** Feeds a text, with blanks behind it up to twenty bytes: what the last feed() answers. */
+    static int feed(TinNation x, String text) {
+        int has = 0;
+        int[] words = words(text);
+        for (int i = 0; i < words.length; i += 5) {
+            has = x.feed(words[i], words[i + 1], words[i + 2], words[i + 3], words[i + 4]);
+        }
+        return has;
+    }
+
+    /** The numbers that bring a text, with blanks behind it up to twenty bytes. */
+    static int[] words(String text) {
+        String padded = text + " ".repeat((20 - text.length() % 20) % 20);
+        int[] words = new int[padded.length() / 4];
+        for (int i = 0; i < padded.length(); i++) {
+            words[i / 4] = words[i / 4] << 8 | padded.charAt(i) & 255;
+        }
+        return words;
     }
 
     /** A new nation of a text that must be without a fault. */

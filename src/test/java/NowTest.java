@@ -1,5 +1,3 @@
-import java.util.NoSuchElementException;
-
 /** Promises 6 to 10, 17 and 38: tin, kind, want, top, law, above, count. */
 public final class NowTest {
     public static void main(String[] args) {
@@ -11,18 +9,6 @@ public final class NowTest {
         values();
         counts();
         Check.end("NowTest");
-    }
-
-    /** What is thrown: 1 IndexOutOfBoundsException, 2 NoSuchElementException, 0 nothing. */
-    private static int thrown(TinNation x, int tin, int what) {
-        try {
-            x.tin(tin, what);
-            return 0;
-        } catch (IndexOutOfBoundsException e) {
-            return 1;
-        } catch (NoSuchElementException e) {
-            return 2;
-        }
     }
 
     private static void tins() {
@@ -46,13 +32,13 @@ public final class NowTest {
         x.go(7);
         Check.due("BLOWN", 3, x.tin(1, 4));
         for (int tin : new int[] {-1, 2, 8, Integer.MAX_VALUE, Integer.MIN_VALUE}) {
-            Check.due("no such tin " + tin, 1, thrown(x, tin, 0));
-            Check.due("neither such a tin " + tin, 1, thrown(x, tin, 7));
+            Check.due("no such tin " + tin, 1, Check.thrown(x, tin, 0));
+            Check.due("neither such a tin " + tin, 1, Check.thrown(x, tin, 7));
         }
         for (int what : new int[] {-1, 7, Integer.MAX_VALUE, Integer.MIN_VALUE}) {
-            Check.due("no such what " + what, 2, thrown(x, 0, what));
+            Check.due("no such what " + what, 2, Check.thrown(x, 0, what));
         }
-        Check.due("a tin of a new one", 1, thrown(new TinNation(), 0, 0));
+        Check.due("a tin of a new one", 1, Check.thrown(new TinNation(), 0, 0));
     }
 
     private static void kinds() {

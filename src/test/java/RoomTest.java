@@ -9,7 +9,7 @@ public final class RoomTest {
         long thread = Thread.currentThread().getId();
         String text = "kind k 1 1;tin a k 0 9 0;tin b k 0 19 0;tin c k 7 90 1;tin d k 7 90 2;open a 1;open b 0;want k 1 20;"
                 + "want k 9 20;rust 40;seed 1;law fresh 2+(day<3)*dents;law blow not(dents>5)*40;";
-        int[] words = words(text);
+        int[] words = Check.words(text);
         TinNation x = new TinNation();
         calls(x, words, text.length(), TIMES);
         long before = threads.getThreadAllocatedBytes(thread);
@@ -21,15 +21,6 @@ public final class RoomTest {
         // the machine itself may take a little for its own compiling
         Check.due("bytes made by " + TIMES + " rounds: " + (after - before - own), true, after - before - own < TIMES * 16L);
         Check.end("RoomTest");
-    }
-
-    private static int[] words(String text) {
-        String padded = text + " ".repeat((20 - text.length() % 20) % 20);
-        int[] words = new int[padded.length() / 4];
-        for (int i = 0; i < padded.length(); i++) {
-            words[i / 4] = words[i / 4] << 8 | padded.charAt(i);
-        }
-        return words;
     }
 
     private static void calls(TinNation x, int[] words, int length, int times) {

@@ -80,132 +80,108 @@ public final class TextTest {
     private static void cut(String text, int n, int fault, int place) {
         TinNation x = new TinNation();
         Check.tell(x, "!");
-        StringBuilder bytes = new StringBuilder(text + "       ");
-        x.feed(word(bytes, 0), word(bytes, 4), word(bytes, 8), word(bytes, 12), word(bytes, 16));
+        Check.feed(x, text);
         Check.due("the first " + n + " of <" + text + ">", -1, x.text(n));
         Check.due("fault of it", fault, x.fault(0));
         Check.due("place of it", place, x.fault(1));
     }
 
-    private static int word(CharSequence bytes, int at) {
-        int word = 0;
-        for (int i = at; i < at + 4; i++) {
-            word = word << 8 | bytes.charAt(i);
-        }
-        return word;
-    }
-
-    private static void good(String text, int lines, int knots) {
-        TinNation x = new TinNation();
-        Check.due("lines of <" + text + ">", lines, Check.tell(x, text));
-        Check.due("fault of <" + text + ">", 0, x.fault(0));
-        Check.due("place of <" + text + ">", -1, x.fault(1));
-        Check.due("knots of <" + text + ">", knots, x.count(3));
-    }
-
     private static void goodTexts() {
-        good("", 0, 0);
-        good("  \n ", 0, 0);
-        good(KIND + "\n" + TIN + " ", 2, 0);
-        good("kind abcdef 99 9;kind a1 0;", 2, 0);
-        good("kind k 0001 09;", 1, 0);
-        good(KIND + "tin k k 9 99 3;open k 99;want k 99 99;", 4, 0);
-        good("keys 0;rust 0;seed 0;", 3, 0);
-        good("keys 20;rust 100;seed 99999;", 3, 0);
-        good("law fresh 9999;law glory 0;law blow day;", 3, 3);
-        good("law fresh not not 1;", 1, 3);
-        good("law fresh not 1<2 and not(3)or 4;", 1, 9);
-        good("law fresh 1<=2;law glory 1<>2;law blow 1>=2;", 3, 9);
-        good("law fresh((((((((1))))))));", 1, 1);
-        good("law fresh (((((((1))))))) + ((((((((1))))))));", 1, 3);
-        good("law fresh " + "1+".repeat(31) + "1;", 1, 63);
-        good("law fresh not " + "1+".repeat(31) + "1;", 1, 64);
-        good("law fresh " + "not ".repeat(63) + "1;", 1, 64);
-        good("law fresh " + "1+".repeat(30) + "1;law blow 1+1;", 2, 64);
-    }
-
-    private static void bad(String text, int fault, int place) {
-        TinNation x = new TinNation();
-        Check.due("text of <" + text + ">", -1, Check.tell(x, text));
-        Check.due("fault of <" + text + ">", fault, x.fault(0));
-        Check.due("place of <" + text + ">", place, x.fault(1));
+        Check.good("", 0, 0);
+        Check.good("  \n ", 0, 0);
+        Check.good(KIND + "\n" + TIN + " ", 2, 0);
+        Check.good("kind abcdef 99 9;kind a1 0;", 2, 0);
+        Check.good("kind k 0001 09;", 1, 0);
+        Check.good(KIND + "tin k k 9 99 3;open k 99;want k 99 99;", 4, 0);
+        Check.good("keys 0;rust 0;seed 0;", 3, 0);
+        Check.good("keys 20;rust 100;seed 99999;", 3, 0);
+        Check.good("law fresh 9999;law glory 0;law blow day;", 3, 3);
+        Check.good("law fresh not not 1;", 1, 3);
+        Check.good("law fresh not 1<2 and not(3)or 4;", 1, 9);
+        Check.good("law fresh 1<=2;law glory 1<>2;law blow 1>=2;", 3, 9);
+        Check.good("law fresh((((((((1))))))));", 1, 1);
+        Check.good("law fresh (((((((1))))))) + ((((((((1))))))));", 1, 3);
+        Check.good("law fresh " + "1+".repeat(31) + "1;", 1, 63);
+        Check.good("law fresh not " + "1+".repeat(31) + "1;", 1, 64);
+        Check.good("law fresh " + "not ".repeat(63) + "1;", 1, 64);
+        Check.good("law fresh " + "1+".repeat(30) + "1;law blow 1+1;", 2, 64);
     }
 
     private static void wrongTokens() {
-        bad(";", 1, 0);
-        bad("k", 1, 0);
-        bad("1", 1, 0);
-        bad("Kind k 1 1;", 1, 0);
-        bad("kind", 1, 4);
-        bad("kind  ", 1, 6);
-        bad("kind k 1 1", 1, 10);
-        bad("kind k 1 1 1;", 1, 11);
-        bad("kind k 1;", 1, 8);
-        bad("kind kind 1 1;", 1, 5);
-        bad("kind or 1 1;", 1, 5);
-        bad("kind left 1 1;", 1, 5);
-        bad("kind blow 1 1;", 1, 5);
-        bad("kind 1 1 1;", 1, 5);
-        bad("kind abcdefg 1 1;", 1, 5);
-        bad(KIND + "\tkeys 1;", 1, 11);
-        bad(KIND + "\r", 1, 11);
-        bad(KIND + "\u00e9", 1, 11);
-        bad("kinds k 1 1;", 1, 0);
-        bad("keys -1;", 1, 5);
-        bad("keys keys;", 1, 5);
-        bad("fresh 1;", 1, 0);
-        bad("law;", 1, 3);
-        bad("law tin 1;", 1, 4);
-        bad("law dents 1;", 1, 4);
-        bad("law fresh;", 1, 9);
-        bad("law fresh k;", 1, 10);
-        bad("law fresh abcdefgh;", 1, 10);
-        bad("law fresh 1 2;", 1, 12);
-        bad("law fresh 1 99999;", 1, 12);
-        bad("law fresh 1<2<3;", 1, 13);
-        bad("law fresh 1+not 1;", 1, 12);
-        bad("law fresh 1<not 1;", 1, 12);
-        bad("law fresh 1< =2;", 1, 13);
-        bad("law fresh 1=>2;", 1, 12);
-        bad("law fresh 1><2;", 1, 12);
-        bad("law fresh 1<>=2;", 1, 13);
-        bad("law fresh -1;", 1, 10);
-        bad("law fresh 1+;", 1, 12);
-        bad("law fresh (1;", 1, 12);
-        bad("law fresh 1);", 1, 11);
-        bad("law fresh ();", 1, 11);
-        bad("law fresh 1!2;", 1, 11);
-        bad("law fresh 1 or", 1, 14);
-        bad("law fresh and 1;", 1, 10);
+        Check.bad(";", 1, 0);
+        Check.bad("k", 1, 0);
+        Check.bad("1", 1, 0);
+        Check.bad("Kind k 1 1;", 1, 0);
+        Check.bad("kind", 1, 4);
+        Check.bad("kind  ", 1, 6);
+        Check.bad("kind k 1 1", 1, 10);
+        Check.bad("kind k 1 1 1;", 1, 11);
+        Check.bad("kind k 1;", 1, 8);
+        Check.bad("kind kind 1 1;", 1, 5);
+        Check.bad("kind or 1 1;", 1, 5);
+        Check.bad("kind left 1 1;", 1, 5);
+        Check.bad("kind blow 1 1;", 1, 5);
+        Check.bad("kind 1 1 1;", 1, 5);
+        Check.bad("kind abcdefg 1 1;", 1, 5);
+        Check.bad(KIND + "\tkeys 1;", 1, 11);
+        Check.bad(KIND + "\r", 1, 11);
+        Check.bad(KIND + "\u00e9", 1, 11);
+        Check.bad("kinds k 1 1;", 1, 0);
+        Check.bad("keys -1;", 1, 5);
+        Check.bad("keys keys;", 1, 5);
+        Check.bad("fresh 1;", 1, 0);
+        Check.bad("law;", 1, 3);
+        Check.bad("law tin 1;", 1, 4);
+        Check.bad("law dents 1;", 1, 4);
+        Check.bad("law fresh;", 1, 9);
+        Check.bad("law fresh k;", 1, 10);
+        Check.bad("law fresh abcdefgh;", 1, 10);
+        Check.bad("law fresh 1 2;", 1, 12);
+        Check.bad("law fresh 1 99999;", 1, 12);
+        Check.bad("law fresh 1<2<3;", 1, 13);
+        Check.bad("law fresh 1+not 1;", 1, 12);
+        Check.bad("law fresh 1<not 1;", 1, 12);
+        Check.bad("law fresh 1< =2;", 1, 13);
+        Check.bad("law fresh 1=>2;", 1, 12);
+        Check.bad("law fresh 1><2;", 1, 12);
+        Check.bad("law fresh 1<>=2;", 1, 13);
+        Check.bad("law fresh -1;", 1, 10);
+        Check.bad("law fresh 1+;", 1, 12);
+        Check.bad("law fresh (1;", 1, 12);
+        Check.bad("law fresh 1);", 1, 11);
+        Check.bad("law fresh ();", 1, 11);
+        Check.bad("law fresh 1!2;", 1, 11);
+        Check.bad("law fresh 1 or", 1, 14);
+        Check.bad("law fresh and 1;", 1, 10);
     }
 
     private static void tooMuch() {
-        bad("kind k 0 1;", 2, 7);
-        bad("kind k 100 1;", 2, 7);
-        bad("kind k 99999999999999999999999 1;", 2, 7);
-        bad("kind k 4294967297 1;", 2, 7);
-        bad("kind k 1 10;", 2, 9);
-        bad(KIND + "tin t k 10 1 0;", 2, 19);
-        bad(KIND + "tin t k 0 0 0;", 2, 21);
-        bad(KIND + "tin t k 0 100 0;", 2, 21);
-        bad(KIND + "tin t k 0 1 4;", 2, 23);
-        bad(KIND + TIN + "open t 100;", 2, 32);
-        bad(KIND + "want k 100 1;", 2, 18);
-        bad(KIND + "want k 0 0;", 2, 20);
-        bad(KIND + "want k 0 100;", 2, 20);
-        bad("keys 21;", 2, 5);
-        bad("rust 101;", 2, 5);
-        bad("seed 100000;", 2, 5);
-        bad("law fresh 10000;", 2, 10);
-        bad("law fresh (((((((((1)))))))));", 2, 18);
-        bad("law fresh " + "1+".repeat(32) + "1;", 2, 74);
-        bad("law fresh " + "1+".repeat(31) + "1 and 1;", 2, 78);
-        bad("law fresh " + "not ".repeat(65) + "1;", 2, 266);
-        bad("law fresh " + "1+".repeat(30) + "1;law blow 1+1-1;", 2, 84);
+        Check.bad("kind k 0 1;", 2, 7);
+        Check.bad("kind k 100 1;", 2, 7);
+        Check.bad("kind k 99999999999999999999999 1;", 2, 7);
+        Check.bad("kind k 4294967297 1;", 2, 7);
+        Check.bad("kind k 1 10;", 2, 9);
+        Check.bad(KIND + "tin t k 10 1 0;", 2, 19);
+        Check.bad(KIND + "tin t k 0 0 0;", 2, 21);
+        Check.bad(KIND + "tin t k 0 100 0;", 2, 21);
+        Check.bad(KIND + "tin t k 0 1 4;", 2, 23);
+        Check.bad(KIND + TIN + "open t 100;", 2, 32);
+        Check.bad(KIND + "want k 100 1;", 2, 18);
+        Check.bad(KIND + "want k 0 0;", 2, 20);
+        Check.bad(KIND + "want k 0 100;", 2, 20);
+        Check.bad("keys 21;", 2, 5);
+        Check.bad("rust 101;", 2, 5);
+        Check.bad("seed 100000;", 2, 5);
+        Check.bad("law fresh 10000;", 2, 10);
+        Check.bad("law fresh (((((((((1)))))))));", 2, 18);
+        Check.bad("law fresh " + "1+".repeat(32) + "1;", 2, 74);
+        Check.bad("law fresh " + "1+".repeat(31) + "1 and 1;", 2, 78);
+        Check.bad("law fresh " + "not ".repeat(65) + "1;", 2, 266);
+        Check.bad("law fresh " + "1+".repeat(30) + "1;law blow 1+1-1;", 2, 84);
         // what can't stand there is the lesser fault of the same place
-        bad("law fresh " + "1+".repeat(31) + "1 1;", 1, 74);
-        bad("law fresh not " + "1+".repeat(31) + "1 1;", 1, 78);
-        bad("law fresh ((((((((1(1))))))));", 1, 19);
+        Check.bad("law fresh " + "1+".repeat(31) + "1 1;", 1, 74);
+        Check.bad("law fresh not " + "1+".repeat(31) + "1 1;", 1, 78);
+        Check.bad("law fresh ((((((((1(1))))))));", 1, 19);
         StringBuilder kinds = new StringBuilder();
         StringBuilder tins = new StringBuilder(KIND);
         StringBuilder opens = new StringBuilder(KIND + TIN);
@@ -217,44 +193,44 @@ public final class TextTest {
             opens.append("open t 0;");
             wants.append(i < 8 ? "want k 0 1;" : "");
         }
-        good(kinds.toString(), 6, 0);
-        good(tins.toString(), 9, 0);
-        good(opens.toString(), 12, 0);
-        good(wants.toString(), 9, 0);
-        bad(kinds + "kind rubbish!", 2, kinds.length());
-        bad(tins + " tin ;", 2, tins.length() + 1);
-        bad(opens + "open x", 2, opens.length());
-        bad(wants + "want", 2, wants.length());
+        Check.good(kinds.toString(), 6, 0);
+        Check.good(tins.toString(), 9, 0);
+        Check.good(opens.toString(), 12, 0);
+        Check.good(wants.toString(), 9, 0);
+        Check.bad(kinds + "kind rubbish!", 2, kinds.length());
+        Check.bad(tins + " tin ;", 2, tins.length() + 1);
+        Check.bad(opens + "open x", 2, opens.length());
+        Check.bad(wants + "want", 2, wants.length());
     }
 
     private static void toldAlready() {
-        bad(KIND + KIND, 3, 16);
-        bad(KIND + TIN + TIN, 3, 29);
-        bad("keys 1;keys 1;", 3, 7);
-        bad("rust 1;rust", 3, 7);
-        bad("seed 1;seed 100000;", 3, 7);
-        bad("law fresh 1;law fresh 1;", 3, 16);
-        bad("law glory 1;law glory 1;", 3, 16);
-        bad("law blow 1;law blow !", 3, 15);
+        Check.bad(KIND + KIND, 3, 16);
+        Check.bad(KIND + TIN + TIN, 3, 29);
+        Check.bad("keys 1;keys 1;", 3, 7);
+        Check.bad("rust 1;rust", 3, 7);
+        Check.bad("seed 1;seed 100000;", 3, 7);
+        Check.bad("law fresh 1;law fresh 1;", 3, 16);
+        Check.bad("law glory 1;law glory 1;", 3, 16);
+        Check.bad("law blow 1;law blow !", 3, 15);
     }
 
     private static void notTold() {
-        bad(TIN, 4, 6);
-        bad(KIND + "tin t x 0 1 0;", 4, 17);
-        bad("open t 0;", 4, 5);
-        bad(KIND + "open k 0;", 4, 16);
-        bad("want k 0 1;", 4, 5);
-        bad(KIND + TIN + "want t 0 1;", 4, 30);
-        bad("open t 0;" + KIND + TIN, 4, 5);
+        Check.bad(TIN, 4, 6);
+        Check.bad(KIND + "tin t x 0 1 0;", 4, 17);
+        Check.bad("open t 0;", 4, 5);
+        Check.bad(KIND + "open k 0;", 4, 16);
+        Check.bad("want k 0 1;", 4, 5);
+        Check.bad(KIND + TIN + "want t 0 1;", 4, 30);
+        Check.bad("open t 0;" + KIND + TIN, 4, 5);
     }
 
     private static void firstAlongTheText() {
-        bad("kind k 100 10;", 2, 7);
-        bad("kind k 1 10", 2, 9);
-        bad(KIND + TIN + "tin t x 0 1 0;", 3, 29);
-        bad(KIND + "tin t x 0 1 9;", 4, 17);
-        bad("keys 21 keys", 2, 5);
-        bad("law fresh 10000 10000;", 2, 10);
+        Check.bad("kind k 100 10;", 2, 7);
+        Check.bad("kind k 1 10", 2, 9);
+        Check.bad(KIND + TIN + "tin t x 0 1 0;", 3, 29);
+        Check.bad(KIND + "tin t x 0 1 9;", 4, 17);
+        Check.bad("keys 21 keys", 2, 5);
+        Check.bad("law fresh 10000 10000;", 2, 10);
     }
 
     private static void faultLeavesAll() {
