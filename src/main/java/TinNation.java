@@ -947,11 +947,12 @@ public final class TinNation {
         }
 
         long work(int law, int[] names) {
-            if (!has(law)) {
+            if (!has(law) || names.length <= Scanner.DAY - Scanner.DENTS) {
                 return ERROR;
             }
             int high = 0;
-            for (int i = from[law]; i < upTo[law]; i++) {
+            // Each turn puts one on the pile at most, so it never has more than there are KNOTS.
+            for (int i = from[law]; i < upTo[law] && i < MOST_KNOTS && high < MOST_KNOTS; i++) {
                 int token = -code[i];
                 if (token <= 0) {
                     pile[high] = -token;

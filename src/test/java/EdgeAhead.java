@@ -295,6 +295,13 @@ final class EdgeAhead {
         x.go(10);
         Check.due("without the BLOWN one", 0, x.tidy(0));
 
+        TinNation first = Check.nation(KIND + "tin a k 0 5 0;tin b k 0 9 1;tin c k 0 8 1;");
+        first.put(0, 1);
+        Check.due("the first told, put on top of two", 0, first.tidy(1));
+        TinNation longer = Check.nation(KIND + "tin a k 0 50 0;tin b k 0 9 1;tin c k 0 8 1;");
+        longer.put(0, 1);
+        Check.due("the first told, that keeps longer", 2, longer.tidy(1));
+
         Edges.passage(3, "the fewest of them that must be taken out and put on top, one behind another, so that it is so.");
         tidyIs(1, 9, 3, 7);
         tidyIs(2, 9, 5, 20);

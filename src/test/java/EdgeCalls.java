@@ -465,6 +465,18 @@ final class EdgeCalls {
         Check.due("at once", 1, x.back());
         Check.due("nothing to undo, though there was when it was kept", 0, x.count(15));
 
+        TinNation serving = Check.nation(THREE + "want k 0 5;want k 1 6;open a 0;law fresh 5;");
+        serving.open(1);
+        serving.go(1);
+        first = all(serving);
+        serving.keep();
+        serving.go(1);
+        Check.due("two SERVED", 2, serving.tin(0, 6) + serving.tin(1, 6));
+        serving.back();
+        stays("SERVED and WANTS as in the IMAGE", serving, first);
+        Check.due("one SERVED", 1, serving.tin(0, 6));
+        Check.due("the second WANT is to come", 0, serving.want(1, 3));
+
         Edges.promise(37, "NONE: there is none.");
         TinNation y = new TinNation();
         y.find(1);

@@ -587,7 +587,67 @@ final class EdgeDays {
                 }
             }
         }
+        askedBehind();
         TinNation beyond = Check.nation(KIND + "tin a k 9 99 0;tin b k 9 98 0;law blow (keeps-98)*9999-(keeps=98)*5;");
         Check.due("what is beyond 100, and below 0", 1, beyond.ahead(1, 3));
+    }
+
+    /** Questions as it goes, and DAYS by numbers, whatever was asked or done by numbers or otherwise before. */
+    private static void askedBehind() {
+        // GLORY in 9 DAYS is another one in each way of TRIED, and by numbers
+        String text = "kind j 2 2;" + KIND + "tin a k 9 99 0;tin b j 9 98 1;tin c k 0 99 2;tin d k 0 99 2;keys 2;law fresh 1;"
+                + "law blow (keeps=99)*40+(keeps=98)*60;open a 1;open b 1;open c 3;open d 5;open c 6;"
+                + "want k 1 1;want j 1 2;want k 3 4;want k 5 16;want k 6 32;want k 8 8;";
+        int[] due = {17, 3, 48, 5, 49, 61};
+        for (int what = 0; what <= 5; what++) {
+            Check.due("tried(" + what + ", 0, 9)", due[what], Check.nation(text).tried(what, 0, 9));
+        }
+        for (int call = 0; call <= 7; call++) {
+            for (int question = 0; question <= 17; question++) {
+                TinNation x = Check.nation(text);
+                TinNation y = Check.nation(text);
+                x.see(2, 0, false);
+                y.see(2, 0, false);
+                disturb(x, call);
+                Check.due("question " + question + " behind call " + call, answer(y, question), answer(x, question));
+            }
+            TinNation x = Check.nation(text);
+            TinNation y = Check.nation(text);
+            disturb(x, call);
+            x.go(9);
+            y.go(9);
+            for (int what = 0; what <= 12; what++) {
+                Check.due("count(" + what + ") nine DAYS behind call " + call, y.count(what), x.count(what));
+            }
+            Check.due("by numbers a was BLOWN", 3, x.tin(0, 4));
+        }
+    }
+
+    private static void disturb(TinNation x, int call) {
+        if (call <= 5) {
+            x.tried(call, 0, 9);
+        } else if (call == 6) {
+            x.chance(0, 9, 0);
+        } else {
+            x.keep();
+            x.go(4);
+            x.back();
+        }
+    }
+
+    private static int answer(TinNation x, int question) {
+        if (question <= 4) {
+            return x.ahead(9, question);
+        }
+        if (question <= 9) {
+            return x.order(question - 5);
+        }
+        if (question <= 11) {
+            return x.best(2, question - 10);
+        }
+        if (question <= 15) {
+            return x.blows(question - 12);
+        }
+        return question == 16 ? x.dented(0) : x.tried(0, 0, 9);
     }
 }

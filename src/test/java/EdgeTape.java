@@ -182,10 +182,38 @@ final class EdgeTape {
         y.go(5);
         x.go(5);
         Check.due("the same rust", y.tin(0, 1), x.tin(0, 1));
+        leavesNothing();
         Check.due("a text without LINES", 0, x.text(0));
         for (int what = 0; what <= 15; what++) {
             Check.due("count(" + what + ") without LINES", what == 12 ? 20 : 0, x.count(what));
         }
+    }
+
+    /** Nothing of what was told or had come before is seen in the next text. */
+    private static void leavesNothing() {
+        String tins = "kind k 1 1;tin a k 0 99 0;tin b k 0 99 1;";
+        TinNation x = Check.nation(tins + "open a 0;open a 1;" + "open b 3;".repeat(8) + "want k 0 5;".repeat(8) + "keys 9;seed 1;law fresh 9;law glory " + "1+".repeat(30) + "1;");
+        x.go(2);
+        x.known(0);
+        Check.due("OPEN", 7, x.tin(0, 5));
+        Check.due("SERVED", 1, x.tin(0, 6));
+        Check.due("MISSED", 7, x.count(10));
+        Check.due("REFUSED", 1, x.count(11));
+        Check.due("the next text", 7, Check.tell(x, tins + "want k 0 5;rust 1;law glory " + "2+".repeat(30) + "2;law fresh 3;"));
+        Check.due("not FRESH", 0, x.tin(0, 5));
+        Check.due("nobody SERVED", 0, x.tin(0, 6));
+        Check.due("none MISSED", 0, x.count(10));
+        Check.due("none REFUSED", 0, x.count(11));
+        Check.due("keys", 20, x.count(12));
+        Check.due("the first law", 62, x.law(1, 0, 0));
+        Check.due("the last law", 3, x.law(0, 0, 0));
+        x.note(0, 99, true);
+        Check.due("KNOWN by all", 1, x.count(14));
+        Check.due("so it is none", 0, x.which());
+        x.go(4);
+        Check.due("no open is left", 0, x.count(6) + x.count(11));
+        Check.due("a first number that is 0, as of the seed 0", 1, x.tin(0, 1));
+        Check.due("ten may be told again", 14, Check.tell(x, tins + "open a 0;".repeat(10) + "keys 1;"));
     }
 
     private static void faultLeavesAll() {

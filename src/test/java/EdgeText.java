@@ -467,6 +467,18 @@ final class EdgeText {
         Check.good("law fresh " + "1+".repeat(15) + "1;law glory " + "1+".repeat(15) + "1;law blow 1;", 3, 63);
         Check.good("law fresh " + "1+".repeat(15) + "1;law glory " + "1+".repeat(15) + "1;law blow not 1;", 3, 64);
         Edges.fault(2, "law fresh " + "1+".repeat(15) + "1;law glory " + "1+".repeat(15) + "1;law blow not not ^1;");
+        // and all 64 are worked out
+        for (int i = 0; i < 2; i++) {
+            String one = "law blow 7;";
+            String more = "law fresh " + "1+".repeat(31) + "1;";
+            TinNation x = Check.nation(TIN + (i == 0 ? one + more : more + one));
+            Check.due("64 KNOTS", 64, x.count(3));
+            Check.due("the E of 63", 32, x.law(0, 0, 0));
+            Check.due("the E of one", 7, x.law(2, 0, 0));
+            Check.due("not of " + i, 1 - i, Check.nation(TIN + "law fresh " + "not ".repeat(63) + i + ";").law(0, 0, 0));
+            String deep = "0 or 1 and 1<1+1*(".repeat(6) + i + ")".repeat(6);
+            Check.due("what waits for " + i, i, Check.nation(TIN + "law fresh " + deep + ";").law(0, 0, 0));
+        }
         Edges.fault(2, sixtyFour + ";law blow ^1;");
         Edges.fault(2, sixtyFour + ";law blow (^day);");
     }
